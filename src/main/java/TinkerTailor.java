@@ -742,7 +742,7 @@ public final class TinkerTailor {
     }
 
     private boolean pleases(int e, int n) {
-      return hasEater(e) && wordTo(0, n) == wishes[e];
+      return hasEater(e) && rhymeCount > 0 && spoken(lengths[0], firsts[0], n) == wishes[e];
     }
 
     /** The least STONES with which one HAS its WISH; more than a rim holds, if none do. */
@@ -1036,7 +1036,7 @@ public final class TinkerTailor {
 
     private long waysWith(Board board, int e, int f, int step) {
       long sum = 0;
-      for (int k = 0; k <= f; k += step) {
+      for (int k = 0; k <= f; k += Math.max(1, step)) {
         if (board.pleases(e, board.stones[e] + k)) sum += ways[f - k];
       }
       return sum;
