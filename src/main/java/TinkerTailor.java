@@ -858,7 +858,9 @@ public final class TinkerTailor {
 
     private int leastToPlease(int e, int step) {
       if (!hasEater(e) || step < 1) return 0;
-      for (int k = 0; k <= fruits && stones[e] + k <= MOST_STONES; k += step) {
+      // behind as many steps as the longest RHYME has words they come round
+      int greatest = Math.min(LONGEST * step, Math.min(fruits, MOST_STONES - stones[e]));
+      for (int k = 0; k <= greatest; k += step) {
         if (pleases(e, stones[e] + k)) return k;
       }
       return 0;

@@ -573,6 +573,10 @@ public final class PromiseTest {
     TinkerTailor r = with("r12;w005;e000398;e000099;");
     due(r.eater(0, 4), 6);
     due(r.pushes(), -9);
+    TinkerTailor most = with("r2;e000099;e000099;e000099;e000099;");
+    due(most.pushes(), 0);
+    most.lay(0, 0, 98);
+    due(most.pushes(), -9);
     due(nobody.pushes(), 0);
     refused(noRhyme, -3, () -> noRhyme.pushes());
   }
@@ -633,6 +637,11 @@ public final class PromiseTest {
     two.set(3, 1);
     due(two.sure(1, 1), 1);
     due(two.sure(0, 0), 0);
+    TinkerTailor feast = with("r8;e000300;b60,26;");
+    due(feast.sure(0, 0), 1); // 60 says 3
+    due(feast.sure(0, 1), 1);
+    feast.lay(0, 1, 2);
+    due(feast.sure(0, 0), 0);
     TinkerTailor above = with("r8;e000399;e000000;b1,23;");
     due(above.sure(0, 0), 1); // the hundredth counts on
     refused(two, -1, () -> two.sure(2, 2));
