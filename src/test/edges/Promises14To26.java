@@ -217,6 +217,8 @@ final class Promises14To26 extends Edge {
     TinkerTailor x = with("r8;e000304;e000305;b0,23;");
     are(x.can(0), 1, x.can(1), 1, x.lay(1, 0, 4), 5, x.can(0), 2, x.can(1), 3, x.lay(0, 0, 0), 4, x.can(1), 2);
     TinkerTailor far = with("r8;e000399;b1,23;"); // 100 says 3
+    TinkerTailor less = with("r8;e000305;e000305;e000305;b0,23;"); // with one less they would have it
+    are(less.can(0), 0, less.can(1), 0, less.set(0, 6), 0, less.can(0), 0, less.set(0, 7), 6, less.can(0), 1, less.can(1), 1);
     are(far.can(0), 1, far.set(0, 0), 1, far.can(0), 0, tell(far, "e000899;"), 1, far.set(0, 1), 0, far.can(1), 1);
   }
 
@@ -246,48 +248,42 @@ final class Promises14To26 extends Edge {
   @Sentence({"SURE (what 0), with which number (1; -9).", "SURE of one", "whether it can have its WISH at the end, whatever the others do"})
   static void promise17_whateverTheOthersDo() {
     for (int eaters = 1; eaters <= 4; eaters++) {
-      TinkerTailor x = with("r3;" + "e000100;e000100;e000100;e000100;".substring(0, 8 * eaters));
       for (int most = 1; most <= 6; most += most < 3 ? 1 : 3) {
-        for (int fruits = 0; fruits <= 7; fruits++) {
-          x.set(2, most);
-          x.set(0, fruits);
-          int one = (fruits + most) % eaters;
-          x.set(3, fruits % eaters);
-          boolean sure = sureByTrying(x, one, most, fruits, fruits % eaters, 0);
-          is(x.sure(one, 0), sure ? 1 : 0);
-          is(x.sure(one, 1), one == fruits % eaters ? firstByTrying(x, one, most, fruits) : -9);
-        }
+        for (int fruits = 0; fruits <= 7; fruits++) sureAsByTrying(eaters, most, fruits);
       }
     }
   }
 
-  private static boolean sureByTrying(TinkerTailor x, int one, int most, int left, int who, int stones) {
+  /** RHYME 0 has three words, each wishes the one that is said to two; every second has two STONES now. */
+  private static void sureAsByTrying(int eaters, int most, int fruits) {
+    TinkerTailor x = with("r3;" + "e000100;e000102;e000100;e000102;".substring(0, 8 * eaters) + "b" + fruits + ",2" + most + ";");
+    for (int next = 0; next < eaters; next++) {
+      x.set(3, next);
+      for (int one = 0; one < eaters; one++) {
+        int stones = one % 2 * 2;
+        is(x.sure(one, 0), sureByTrying(eaters, one, most, fruits, next, stones) ? 1 : 0);
+        is(x.sure(one, 1), one == next ? firstByTrying(eaters, one, most, fruits, stones) : -9);
+      }
+    }
+  }
+
+  private static boolean sureByTrying(int eaters, int one, int most, int left, int who, int stones) {
     if (left == 0) return stones > 0 && (stones - 1) % 3 == 1;
-    int then = who + 1 == eatersOf(x) ? 0 : who + 1;
     boolean some = false;
     boolean all = true;
     for (int k = 1; k <= most && k <= left; k++) {
-      boolean good = sureByTrying(x, one, most, left - k, then, who == one ? stones + k : stones);
+      boolean good = sureByTrying(eaters, one, most, left - k, (who + 1) % eaters, who == one ? stones + k : stones);
       some = some || good;
       all = all && good;
     }
     return who == one ? some : all;
   }
 
-  private static int firstByTrying(TinkerTailor x, int one, int most, int fruits) {
-    int then = one + 1 == eatersOf(x) ? 0 : one + 1;
-    for (int k = 1; k <= most && k <= fruits; k++) if (sureByTrying(x, one, most, fruits - k, then, k)) return k;
+  private static int firstByTrying(int eaters, int one, int most, int fruits, int stones) {
+    for (int k = 1; k <= most && k <= fruits; k++) {
+      if (sureByTrying(eaters, one, most, fruits - k, (one + 1) % eaters, stones + k)) return k;
+    }
     return -9;
-  }
-
-  private static TinkerTailor asked;
-  private static int eaters;
-
-  /** Asked once of an object, so that it is not called too often. */
-  private static int eatersOf(TinkerTailor x) {
-    if (x != asked) eaters = x.count(0);
-    asked = x;
-    return eaters;
   }
 
   @Sentence("till no FRUITS are left: 1, 0;")

@@ -256,9 +256,13 @@ final class Promises27To38 extends Edge {
       TinkerTailor x = turned(turns);
       int can = Math.min(8, turns);
       is(x.count(17), can);
-      for (int i = 1; i <= can; i++) are(x.back(), (turns - i) % 3, x.count(17), can - i);
-      TinkerTailor then = turned(turns - can);
-      are(x.count(2), then.count(2), x.count(5), then.count(5), x.count(6), then.count(6), x.back(), -3);
+      for (int i = 1; i <= can; i++) {
+        are(x.back(), (turns - i) % 3, x.count(17), can - i);
+        TinkerTailor then = turned(turns - i);
+        are(x.count(2), then.count(2), x.count(5), then.count(5));
+        for (int e = 0; e < 3; e++) is(x.eater(e, 3), then.eater(e, 3));
+      }
+      is(x.back(), -3);
     }
     TinkerTailor x = turned(9);
     are(x.back(), 2, x.count(17), 7);
@@ -464,6 +468,12 @@ final class Promises27To38 extends Edge {
     are(three.pushes(), -9, three.lay(2, 0, 7), 2, three.pushes(), 4); // 14: of 9 2 3, 1 10 3, 1 2 11 the second
     are(with("r8;").pushes(), 0, with("r8;e000304;").pushes(), 0, with("r8;e000305;").pushes(), -9);
     is(with("r8;e000800;e000101;").pushes(), -9);
+    for (int stones = 1; stones <= 99; stones++) { // the last word, and one that it has not
+      String told = stones / 10 + "" + stones % 10;
+      are(with("r12;e0011" + told + ";").pushes(), stones % 12 == 0 ? 0 : -9, with("r8;e0008" + told + ";").pushes(), -9);
+    }
+    TinkerTailor gone = with("r8;");
+    are(gone.image(), 0, tell(gone, "e000101;"), 1, gone.pushes(), -9, gone.restore(), 0, gone.pushes(), 0); // nobody lacks it
   }
 
   @Sentence("(99 STONES at most on each in the end); -9.")
@@ -647,6 +657,12 @@ final class Promises27To38 extends Edge {
     are(alone.scheme(0), 2, alone.lay(0, 0, 1), 0, alone.scheme(0), 1, alone.lay(0, 0, 2), 1, alone.scheme(0), 0);
     are(alone.set(2, 1), 2, alone.lay(0, 0, 5), 2, alone.scheme(0), -9, alone.lay(0, 0, 6), 5, alone.scheme(0), 1);
     are(alone.lay(0, 0, 7), 6, alone.scheme(0), 0);
+    TinkerTailor still = with("r12;e000001;b60,11;"); // it HAS it, and twelve more are too many
+    are(still.scheme(0), 0, still.lay(0, 1, 11), 0, still.scheme(0), -9);
+    are(still.lay(0, 1, 0), 11, still.lay(0, 0, 2), 1, still.scheme(0), -9); // nor can it give one away
+    is(with("r12;e000100;e000000;b3,21;").scheme(0), 1); // by the first and by the last FRUIT
+    TinkerTailor behindOther = with("r12;e000305;e000000;b60,13;");
+    are(behindOther.scheme(0), -9, behindOther.lay(0, 0, 4), 5, behindOther.scheme(0), 0, behindOther.lay(0, 0, 7), 4, behindOther.scheme(0), 3);
     // three EATERS: two TURNS each; four: the first two have two
     TinkerTailor three = with("r12;e000600;e000600;e000600;b60,13;");
     for (int e = 0; e < 3; e++) {
