@@ -22,6 +22,36 @@ final class Promises01To03 extends Edge {
     are(x.back(), -3, x.restore(), -3, x.move(0, 1), -1);
   }
 
+  private static final String USED = "An object is used for at most 512 calls after it has been made";
+
+  @Sentence(USED)
+  static void promise01_the512thCallIsStillAnswered() {
+    TinkerTailor x = new TinkerTailor();
+    for (int i = 0; i < 511; i++) is(x.row(i % 2 == 0 ? -1 : 100), i % 2 == 0 ? -4 : -6);
+    is(x.count(14), 256);
+    TinkerTailor z = new TinkerTailor();
+    for (int i = 0; i < 511; i++) is(z.feed(256), -6);
+    is(z.count(16), 511);
+  }
+
+  @Sentence(USED)
+  static void promise01_turnsAndSuppersUpTo512Calls() {
+    TinkerTailor x = with("r8;e110000;e410000;b60,23;"); // 27 calls
+    for (int calls = 27; calls + 5 <= 512; calls += 5) {
+      // the second is to move with 59, by 3 less a multiple of 4; it comes to 1 STONE with its third TURN, too
+      are(x.turn(), 1, x.last(0), 1, x.scheme(1), 0, x.back(), 0, x.count(2), 60);
+    }
+  }
+
+  @Sentence(USED)
+  static void promise01_whatOneObjectIsToldTheOtherDoesNotKnow() {
+    TinkerTailor one = new TinkerTailor();
+    TinkerTailor other = new TinkerTailor();
+    are(one.feed('r'), 1, other.feed('t'), 1, one.feed('2'), 2, other.feed('t'), 2, one.feed(';'), 3, one.table(), 1, other.table(), -1001);
+    are(one.count(1), 1, other.count(1), 0, one.pile(5), 0, other.count(10), 0, one.row(7), 1, other.count(8), 0);
+    are(one.set(0, 9), 0, other.set(0, 8), 0, one.image(), 9, other.restore(), -3, other.count(13), 1, one.count(13), 0);
+  }
+
   // ---- promise 2
 
   @Sentence("A letter comes: how many there are.")

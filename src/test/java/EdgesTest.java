@@ -59,7 +59,7 @@ public final class EdgesTest extends Edge {
     return Math.min(placeOf("Promise " + (promise + 1) + ":"), placeOf("Not promised"));
   }
 
-  /** A quote is of the promise in the test's name, or else of the Terms. */
+  /** A quote is of the promise in the test's name, or else of the Terms, or of what it is. */
   private static void mark(String name, String quote) {
     Matcher number = Pattern.compile("promise(\\d\\d)_.*").matcher(name);
     if (!number.matches()) {
@@ -68,7 +68,8 @@ public final class EdgesTest extends Edge {
     }
     int promise = Integer.parseInt(number.group(1));
     boolean found = mark(quote, placeOf("Promise " + promise + ":"), endOf(promise))
-        || mark(quote, placeOf("Terms"), placeOf("Promise 1:"));
+        || mark(quote, placeOf("Terms"), placeOf("Promise 1:"))
+        || mark(quote, placeOf("What it is"), placeOf("The public face"));
     if (!found) fail("no such sentence: " + quote);
   }
 

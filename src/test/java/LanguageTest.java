@@ -21,6 +21,7 @@ public final class LanguageTest {
       + " int rims() int wished(int) int row(int) int judge() int clear() int seeds(int,int,int,int) int back() int cycle()"
       + " int same(int,int) int rhymed(int) int pushes() long unknown(int,int,int,int) int planned(int) int scheme(int)"
       + " int pile(int) int move(int,int) int wins(int) int duel(int) int image() int restore() int count(int)";
+  private static final Path DOCUMENT = Path.of("../shared/DOC.md");
   private static int wrong = 0;
 
   private static void must(boolean holds, String what) {
@@ -41,6 +42,7 @@ public final class LanguageTest {
     all.add(face);
     for (Class<?> one : all) membersHold(one, face, names);
     sourceHolds(Files.readString(Path.of("src/main/java/TinkerTailor.java")));
+    if (Files.exists(DOCUMENT)) documentTells(Files.readString(DOCUMENT));
     System.out.println(wrong == 0 ? "the language is kept" : wrong + " things are not so");
     if (wrong != 0) System.exit(1);
   }
@@ -63,6 +65,23 @@ public final class LanguageTest {
     must(got.equals(want), "the face is the document's: " + got);
     must(names.size() == 44, "44 names");
     return names;
+  }
+
+  /** The document's face, and the lines ahead of its promises, are those that FACE tells. */
+  private static void documentTells(String document) {
+    Set<String> want = new TreeSet<>(Arrays.asList(FACE.split("(?<=\\)) ")));
+    must(told("(?m)^    public (int|long) (\\w+)\\((.*)\\);$", document).equals(want), "the document's public face is FACE");
+    must(told("(?m)^`(int|long) (\\w+)\\((.*)\\)`: ", document).equals(want), "the promises' calls are FACE");
+    must(document.contains("    public TinkerTailor();\n"), "the document's constructor");
+  }
+
+  private static Set<String> told(String form, String document) {
+    Set<String> calls = new TreeSet<>();
+    Matcher call = Pattern.compile(form).matcher(document);
+    while (call.find()) {
+      calls.add(call.group(1) + " " + call.group(2) + "(" + call.group(3).replaceAll(" \\w+(, )?", ",").replaceAll(",$", "") + ")");
+    }
+    return calls;
   }
 
   private static void membersHold(Class<?> one, Class<?> face, Set<String> names) {
@@ -93,6 +112,10 @@ public final class LanguageTest {
     while (library.find()) used.add(library.group(1) + "." + library.group(2));
     used.removeAll(Set.of("Math.min", "Math.max", "Integer.bitCount", "System.arraycopy", "Games.moverLoses"));
     must(used.isEmpty(), "of the library only what is told: " + used);
+    // what a run makes is counted: objects and rows come with the object alone, never with a call
+    for (String line : code.split("\n")) {
+      if (line.matches(".*\\bnew\\b.*")) must(line.matches(" +private final [\\w\\[\\]]+ \\w+ = new .*;"), "made by the constructor:" + line);
+    }
     int start = -1;
     String[] lines = source.split("\n");
     for (int i = 0; i < lines.length; i++) {
