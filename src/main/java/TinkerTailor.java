@@ -496,7 +496,7 @@ public final class TinkerTailor {
   public int last(int what) {
     if (what != 0 && what != 1) return refuse(OTHER);
     if (now.eaterCount != 2 || now.fruits == 0) return refuse(STATE);
-    int rest = now.fruits % (now.most + 1);
+    int rest = now.restInPlay(now.fruits);
     if (what == 0) return rest != 0 ? now.next : 1 - now.next;
     return rest != 0 ? rest : 1;
   }
@@ -867,8 +867,13 @@ public final class TinkerTailor {
     }
 
     private int numberInPlay() {
-      int rest = most < 0 ? 0 : fruits % (most + 1);
+      int rest = restInPlay(fruits);
       return rest == 0 ? 1 : rest;
+    }
+
+    /** What has to be taken of so many to leave a multiple of MOST and 1. */
+    private int restInPlay(int held) {
+      return most < 0 ? 0 : held % (most + 1);
     }
 
     /** A SUPPER: how many TURNS. */
@@ -1193,7 +1198,7 @@ public final class TinkerTailor {
       boolean small = true;
       for (int p = 0; p < board.pileCount; p++) {
         int held = p == at ? board.piles[p] - less : board.piles[p];
-        int rest = board.most < 0 ? 0 : held % (board.most + 1);
+        int rest = board.restInPlay(held);
         sum ^= rest;
         if (rest > 1) small = false;
       }
